@@ -1159,16 +1159,15 @@ public final class RoyaltyOffice {
             add(balances, payee, amount);
         }
 
-        /** Whether a payee is paid when the period is closed. */
-        boolean isPaid(int payee, int least) {
-            long balance = balanceOf(payee);
+        /** Whether a payee with this balance is paid when the period is closed. */
+        static boolean isPaid(long balance, int least) {
             return balance > 0 && balance >= least;
         }
 
         /** Makes a statement's rows for one payee; answers what is paid to it. */
         long settle(int payee, int least) {
             long balance = balanceOf(payee);
-            long paid = isPaid(payee, least) ? balance : 0;
+            long paid = isPaid(balance, least) ? balance : 0;
             add(totals, payee * CARRIED + PAID, paid);
             add(balances, payee, -paid);
             for (int what = EARNED; what <= RETURNED; what++) {
@@ -1389,7 +1388,7 @@ public final class RoyaltyOffice {
         int payablePayees() {
             int set = 0;
             for (int p = 0; p < catalogue.payees; p++) {
-                if (ledger.isPaid(p, catalogue.leastOf(p))) {
+                if (Ledger.isPaid(ledger.balanceOf(p), catalogue.leastOf(p))) {
                     set |= 1 << p;
                 }
             }
