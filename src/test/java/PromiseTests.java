@@ -660,6 +660,10 @@ public final class PromiseTests {
         parts.income(0, 101);
         // a's 91: b and c get 45 each, a keeps 1; b's 10 go to c, and b gets no line of its own.
         due("46 assigned", lines(parts), "0:1:45:0 0:2:45:0 0:0:1:0 0:2:10:0");
+        parts.pass(8);
+        parts.income(0, 1);
+        due("46 no lines of 0 cents", lines(parts), "0:0:1:0");
+        parts.undo();
         due("46 greatest", parts.income(0, 9999999) + " " + parts.came(0), "3 10000100");
         RoyaltyOffice kept = office("payee a;payee b;payee c;work w by a 100;work v by a 100;"
                 + "advance b 1000 to a rate 50;advance c 1000 to a rate 50 on v;advance b 10 to a rate 100;"
@@ -764,6 +768,7 @@ public final class PromiseTests {
         due("39 current", x.current(0, 0) + " " + x.current(0, 1) + " " + x.current(2, 2), "216 130 130");
         x.pass(1);
         due("50 paid", x.close(), 605 + 310);
+        due("38 the first", x.statementDay(0), 1);
         due("37 latest", x.statement(0, 0, 0) + " " + x.statement(0, 0, 1) + " " + x.statement(0, 0, 2) + " "
                 + x.statement(0, 0, 3) + " " + x.statement(0, 0, 4), "216 130 0 0 86");
         due("37 latest", x.statement(0, 2, 0) + " " + x.statement(0, 2, 1) + " " + x.statement(0, 2, 2) + " "
@@ -832,6 +837,10 @@ public final class PromiseTests {
         due("43 too much", y.amountToRecoup(1, 0, 9999), NONE);
         y.income(0, 35);
         due("43 recouped", y.amountToRecoup(0, 1, 1), 0);
+        RoyaltyOffice z = office("payee a;payee b;work w by a 100;advance b 5 to a rate 50;advance b 2 to a rate 100;"
+                + "advance b 999999 to a rate 1;");
+        due("43 all of it", z.amountToRecoup(0, 0, 9999) + " " + z.amountToRecoup(0, 0, 9) + " "
+                + z.amountToRecoup(1, 0, 9999) + " " + z.amountToRecoup(2, 0, 9999), "10 -1 3 -1");
         refused("43 advance", IOOBE, () -> y.amountToRecoup(2, 0, 0));
         refused("43 work", IOOBE, () -> y.amountToRecoup(0, 2, 0));
         refused("43 most", IAE, () -> y.amountToRecoup(0, 0, 0));
