@@ -548,16 +548,18 @@ public final class RoyaltyOffice {
 
     // Keeps the office as it is ahead of a change; the rows of the oldest one kept are used again.
     private void remember() {
-        if (undoable == UNDOS) {
+        if (undoable >= UNDOS) {
             Office oldest = history[0];
             for (int i = 1; i < UNDOS; i++) {
                 history[i - 1] = history[i];
             }
             history[UNDOS - 1] = oldest;
-            undoable--;
+            undoable = UNDOS - 1;
         }
-        history[undoable].copyFrom(office);
-        undoable++;
+        if (undoable >= 0) {
+            history[undoable].copyFrom(office);
+            undoable++;
+        }
     }
 
     // ---- what calls demand
@@ -1958,7 +1960,7 @@ public final class RoyaltyOffice {
         }
 
         /** Answers whether the script goes on. */
-        boolean runCommands(int from, int to, int depth) {
+        private boolean runCommands(int from, int to, int depth) {
             for (int row = from; row < to; row++) {
                 if (commands.at(row, COMMAND) == Tokens.REPEAT) {
                     if (!repeat(row, depth)) {

@@ -19,6 +19,8 @@ public final class FaceTests {
             + " revertingWithin advance owed firstOpen balance total earnedFrom came dearestWork part richest payable"
             + " lines line statement statementDay current wouldCome wouldEarn wouldGrow amountToRecoup wouldEarnOn"
             + " bestDay income pass revert setLeast close report reportLines reportByte undo save restore";
+    private static final List<String> RECURSIVE =
+            Arrays.asList("readCommands", "readCommand", "readRepeat", "runCommands", "repeat");
     private static final long MOST_BYTES = 3_000_000;
     private static int wrong;
 
@@ -82,6 +84,8 @@ public final class FaceTests {
         due(c.getSimpleName() + " has at most twenty fields", fields <= 20);
         for (Method m : c.getDeclaredMethods()) {
             due(m.getName() + " has at most seven parameters", m.getParameterCount() <= 7);
+            due(m.getName() + " calls itself by others, and is private",
+                    !RECURSIVE.contains(m.getName()) || Modifier.isPrivate(m.getModifiers()));
         }
     }
 

@@ -1,132 +1,5 @@
 /** Each promise of the document, with the edges that it names and with wrong inputs. */
-public final class PromiseTests {
-    private static final int IAE = 1;
-    private static final int IOOBE = 2;
-    private static final int ISE = 3;
-    private static final int NONE = RoyaltyOffice.NONE;
-    private static int wrong;
-
-    private interface Call {
-        Object answer();
-    }
-
-    private static void due(String what, Object got, Object want) {
-        if (!String.valueOf(got).equals(String.valueOf(want))) {
-            wrong++;
-            System.out.println(what + ": answered " + got + ", due is " + want);
-        }
-    }
-
-    /** The exception must be of that very class, not of one below it, such as the machine's own. */
-    private static void refused(String what, int kind, Call call) {
-        Class<?> want = kind == IAE ? IllegalArgumentException.class
-                : kind == IOOBE ? IndexOutOfBoundsException.class : IllegalStateException.class;
-        try {
-            due(what + " must throw " + want.getSimpleName(), call.answer(), "an exception");
-        } catch (RuntimeException e) {
-            due(what, e.getClass().getName(), want.getName());
-        }
-    }
-
-    private static int four(byte[] bytes, int i) {
-        int n = 0;
-        for (int k = 0; k < 4; k++) {
-            n = n << 8 | (i + k < bytes.length ? bytes[i + k] & 255 : 0);
-        }
-        return n;
-    }
-
-    private static void feed(RoyaltyOffice x, String text) {
-        byte[] b = text.getBytes(java.nio.charset.StandardCharsets.ISO_8859_1);
-        int length = 0;
-        for (int i = 0; i < b.length; i += 20) {
-            length = x.feed(four(b, i), four(b, i + 4), four(b, i + 8), four(b, i + 12), four(b, i + 16));
-        }
-        x.truncate(length - (20 - b.length % 20) % 20);
-    }
-
-    private static int amend(RoyaltyOffice x, String text) {
-        feed(x, text);
-        return x.amend();
-    }
-
-    private static int script(RoyaltyOffice x, String text) {
-        feed(x, text);
-        return x.runScript();
-    }
-
-    private static RoyaltyOffice office(String text) {
-        RoyaltyOffice x = new RoyaltyOffice();
-        feed(x, text);
-        x.readText();
-        return x;
-    }
-
-    private static String report(RoyaltyOffice x, boolean ofLines) {
-        int length = ofLines ? x.reportLines() : x.report();
-        StringBuilder text = new StringBuilder();
-        for (int i = 0; i < length; i++) {
-            text.append((char) x.reportByte(i));
-        }
-        return text.toString();
-    }
-
-    private static String lines(RoyaltyOffice x) {
-        StringBuilder text = new StringBuilder();
-        for (int i = 0; i < x.lines(); i++) {
-            text.append(x.line(i, 0)).append(':').append(x.line(i, 1)).append(':').append(x.line(i, 2)).append(':')
-                    .append(x.line(i, 3)).append(' ');
-        }
-        return text.toString().trim();
-    }
-
-    /** What the office tells of itself, but for its error and its report. */
-    private static String state(RoyaltyOffice x) {
-        StringBuilder text = new StringBuilder();
-        for (int what = 0; what < 7; what++) {
-            text.append(x.count(what)).append(' ');
-        }
-        for (int p = 0; p < x.count(0); p++) {
-            text.append("| ").append(x.least(p)).append(' ').append(x.balance(p)).append(' ').append(x.owed(p));
-            for (int what = 0; what < 4; what++) {
-                text.append(' ').append(x.total(p, what)).append(' ').append(x.current(p, Math.min(what, 2)));
-            }
-            for (int w = 0; w < x.count(1); w++) {
-                text.append(' ').append(x.earnedFrom(p, w)).append(' ').append(x.left(w, p));
-            }
-            for (int i = 0; i < x.count(5); i++) {
-                for (int what = 0; what < 5; what++) {
-                    text.append(' ').append(x.statement(i, p, what));
-                }
-                text.append(' ').append(x.statementDay(i));
-            }
-        }
-        for (int w = 0; w < x.count(1); w++) {
-            text.append("| ").append(x.came(w)).append(' ').append(x.splits(w)).append(' ').append(x.roots(w));
-            text.append(' ').append(x.owners(w));
-            for (int i = 0; i < x.sources(w); i++) {
-                text.append(' ').append(x.source(w, i, 0)).append(' ').append(x.source(w, i, 1));
-            }
-        }
-        for (int a = 0; a < x.count(2); a++) {
-            for (int what = 0; what < 7; what++) {
-                text.append(' ').append(x.assignment(a, what));
-            }
-        }
-        for (int a = 0; a < x.count(3); a++) {
-            for (int what = 0; what < 6; what++) {
-                text.append(' ').append(x.advance(a, what));
-            }
-        }
-        return text.append("| ").append(lines(x)).toString();
-    }
-
-    private static final String PEOPLE = "payee anna;payee bob least 500;payee cy;";
-    private static final String TEXT = PEOPLE + "work song by anna 60 bob 40;\ncover rock of song 20 by bob 100;\n"
-            + "work mix by anna 34 bob 33 cy 33;sample rock in mix 50;split song from 10 by cy 100;"
-            + "assign anna in song to cy 25 from 0 until 10;advance cy 100 to anna rate 50;"
-            + "advance cy 30 to anna rate 100 on song;";
-
+public final class PromiseTests extends Checks {
     public static void main(String[] args) {
         newObject();
         buffer();
@@ -156,17 +29,13 @@ public final class PromiseTests {
         undo();
         saving();
         constants();
-        if (wrong != 0) {
-            System.out.println(wrong + " answers are not as due");
-            System.exit(1);
-        }
-        System.out.println("all promises stand");
+        end("all promises stand");
     }
 
     // Promise 1
     private static void newObject() {
         RoyaltyOffice x = new RoyaltyOffice();
-        due("1 state", state(x), "0 0 0 0 0 0 0 | ");
+        due("1 state", state(x), "0 0 0 0 0 0 0 | -1 -1 0 0| ");
         due("1 error", x.errorCode() + " " + x.errorPosition() + " " + x.why(), "0 -1 0");
         refused("1 buffer", IAE, () -> x.truncate(1));
         due("1 undo", x.undo(), NONE);
@@ -434,14 +303,6 @@ public final class PromiseTests {
         error(5, 1, head + "work x by a 1^; payee a;");
         error(3, 0, head + "work x by a 1 ^foo bar;");
         error(1, 0, head + "work x by a 1 ^to bar");
-    }
-
-    private static String many(String what, int from, int to) {
-        StringBuilder text = new StringBuilder();
-        for (int i = from; i < to; i++) {
-            text.append(what.replace('#', (char) ('a' + i)));
-        }
-        return text.toString();
     }
 
     // The limits of code 6
